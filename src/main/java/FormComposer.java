@@ -190,7 +190,7 @@ public final class FormComposer {
         return divisor > 0 ? Math.floorMod(number, divisor) : 0;
     }
 
-    /** The quotient where the division leaves nothing; 0 for the divisor 0. */
+    /** The quotient towards 0; 0 for the divisor 0. */
     private static long quotient(long number, long divisor) {
         return divisor != 0 ? number / divisor : 0;
     }
@@ -309,7 +309,8 @@ public final class FormComposer {
         private void settle(int d) {
             discriminant = d;
             root = wholeRoot(d);
-            becomeOne(one);
+            becomeFrom(one, 1, d & 1);
+            reduce(one);
             turnIntoName(one);
         }
 
@@ -329,12 +330,7 @@ public final class FormComposer {
             return number >= -WIDEST_COEFFICIENT && number <= WIDEST_COEFFICIENT;
         }
 
-        /** Some reduced form of ONE. */
-        private void becomeOne(Form f) {
-            becomeFrom(f, 1, discriminant & 1);
-            reduce(f);
-        }
-
+        /** c follows from a, b and D. */
         private void becomeFrom(Form f, long a, long b) {
             f.become(a, b, quotient(b * b - discriminant, 4 * a));
         }
@@ -342,30 +338,24 @@ public final class FormComposer {
         private void reduce(Form f) {
             if (discriminant < 0) {
                 reduceBelow(f);
-            } else {
-                reduceAbove(f);
+                return;
+            }
+            for (int i = 0; i < MANY_ROUNDS && !isReducedAbove(f); i++) {
+                step(f);
             }
         }
 
         private void reduceBelow(Form f) {
-            bringNear(f);
-            for (int i = 0; i < MANY_ROUNDS && f.a > f.c; i++) {
+            for (int i = 0; i < MANY_ROUNDS; i++) {
+                // b comes above -a and up to a.
+                becomeFrom(f, f.a, f.a - remainder(f.a - f.b, 2 * f.a));
+                if (f.a <= f.c) {
+                    break;
+                }
                 f.become(f.c, -f.b, f.a);
-                bringNear(f);
             }
             if (f.a == f.c && f.b < 0) {
                 f.b = -f.b;
-            }
-        }
-
-        /** b comes above -a and up to a. */
-        private void bringNear(Form f) {
-            becomeFrom(f, f.a, f.a - remainder(f.a - f.b, 2 * f.a));
-        }
-
-        private void reduceAbove(Form f) {
-            for (int i = 0; i < MANY_ROUNDS && !isReducedAbove(f); i++) {
-                step(f);
             }
         }
 
@@ -429,7 +419,7 @@ public final class FormComposer {
             if (k < 0) {
                 turn(base);
             }
-            becomeOne(f);
+            f.copy(one);
             // The least long is its own negative, but its bits without a sign are right; hence >>>.
             long rest = k < 0 ? -k : k;
             for (int bit = 0; bit < BITS && rest != 0; bit++) {
@@ -445,7 +435,8 @@ public final class FormComposer {
             base.copy(name);
             int n = 1;
             while (n < MANY_ROUNDS && !base.matches(one)) {
-                nextPower(name);
+                multiply(base, name);
+                turnIntoName(base);
                 n++;
             }
             return n;
@@ -462,15 +453,11 @@ public final class FormComposer {
                 if (base.matches(one)) {
                     return -1;
                 }
-                nextPower(name);
+                multiply(base, name);
+                turnIntoName(base);
                 n++;
             }
             return n;
-        }
-
-        private void nextPower(Form name) {
-            multiply(base, name);
-            turnIntoName(base);
         }
     }
 }
