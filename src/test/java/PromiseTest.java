@@ -65,15 +65,15 @@ public final class PromiseTest {
             {45, -5, 5, 1}, {60, -6, 6, 1}, {229, -1, 15, 1}, {1048572, -1022, 1022, 1}, {1048573, -979, 971, 27},
             {-3, 1, 1, 1}, {-4, 1, 0, 1}, {-7, 1, 1, 2}, {-8, 1, 0, 2}, {-12, 1, 0, 3}, {-1048575, 1, 1, 262144},
             {-1048576, 1, 0, 262144}};
-        FormComposer x = new FormComposer();
+        FormComposer taker = new FormComposer();
         for (int[] one : ones) {
-            x.take(one[0]);
-            due("2: count(0) of " + one[0], x.count(0), one[0]);
+            taker.take(one[0]);
+            due("2: count(0) of " + one[0], taker.count(0), one[0]);
             for (int r = 0; r < 8; r++) {
-                dueName("2: take(" + one[0] + ")", x, r, one[1], one[2], one[3]);
+                dueName("2: take(" + one[0] + ")", taker, r, one[1], one[2], one[3]);
             }
         }
-        x.take(-23);
+        FormComposer x = of(-23);
         x.put(3, 2, 1, 3);
         int[] not = {0, 1, 4, 9, 16, 1048576, 1046529, 2, 3, 6, 7, 42, 43, -1, -2, -5, -6, 1048577, 1048580, -1048577, -1048579,
             -1048580, Integer.MAX_VALUE, Integer.MIN_VALUE, Integer.MIN_VALUE + 1, 2147483644};
@@ -135,7 +135,7 @@ public final class PromiseTest {
         duePut(262140, -1073741826, 65538, -1, ARGUMENT);
         // The discriminants of these are D only if they are worked out modulo 2 to the 32nd.
         duePut(-4, 3, 0, 715827883, ARGUMENT);
-        duePut(5, 65536, 65537, 65536, ARGUMENT);
+        duePut(5, 795913127, -1008687085, -1053894657, ARGUMENT);
         duePut(-8, 1, 65536, 2, ARGUMENT);
         // b alone is one beyond the range.
         duePut(5, 330837245, 1073741825, 871215019, ARGUMENT);
