@@ -19,6 +19,13 @@ public final class BoundaryTest {
     /** D, a form, its order; the orders were worked out apart from the class, from the document's product. */
     private static final int[][] ORDERS = {{-4, 1, 0, 1, 1}, {5, 1, 1, -1, 1}, {12, -1, 0, 3, 2}, {-23, 2, 1, 3, 3},
         {136, 3, 10, -3, 4}, {-47, 2, 1, 6, 5}, {-71, 2, 1, 9, 7}, {1001001, 5, 1, -50050, 234}, {-1046471, 2, 1, 130809, 1866}};
+    /** D and the odd primes that go into it: none, one, and six, which are as many as there can be. */
+    private static final int[][] PRIMES = {
+        {-4}, {-8}, {8}, {-16}, {32}, {128}, {524288}, {-524288}, {-1048576}, {-3, 3}, {5, 5}, {12, 3}, {45, 3, 5},
+        {-27, 3}, {-1048575, 3, 5, 11, 31, 41}, {1048573, 1048573}, {-1048571, 1048571}, {1046533, 97, 10789},
+        {-1036324, 509}, {1021020, 3, 5, 7, 11, 13, 17}, {-1021020, 3, 5, 7, 11, 13, 17},
+        {-255255, 3, 5, 7, 11, 13, 17}, {285285, 3, 5, 7, 11, 13, 19}, {765765, 3, 5, 7, 11, 13, 17},
+        {1006005, 3, 5, 7, 11, 13, 67}, {-1036035, 3, 5, 7, 11, 13, 23}};
 
     private static int wrong = 0;
 
@@ -350,22 +357,22 @@ public final class BoundaryTest {
         }
     }
 
-    /** Terms: "REGISTERS 0 .. 7 hold classes, told by their names. At first D is -4, and all registers are ONE."; 1: "D is -4." */
+    /** Terms: "At first D is -4, and all registers are ONE."; 1: "D is -4." */
     private static void newObject() {
         FormComposer x = new FormComposer();
         due("new: state", state(x), "-4 -1 0 1 " + "(1, 0, 1)".repeat(8));
-        FormComposer y = above();
-        due("new: state beside another object", state(x), state(new FormComposer()));
-        due("new: the other object", y.count(0), 136);
+        due("another object", above().count(0), 136);
+        due("new: state beside another object", state(x), "-4 -1 0 1 " + "(1, 0, 1)".repeat(8));
+    }
+
+    /** Terms: "REGISTERS 0 .. 7 hold classes, told by their names." */
+    private static void eightRegisters() {
         for (int r = 0; r < 8; r++) {
-            FormComposer z = below();
-            String[] want = new String[8];
+            FormComposer x = below();
+            FormComposer plain = below();
+            x.put(r, 4, -1, 3);
             for (int s = 0; s < 8; s++) {
-                want[s] = s == r ? "(3, 1, 4)" : name(z, s);
-            }
-            z.put(r, 4, -1, 3);
-            for (int s = 0; s < 8; s++) {
-                due("put to " + r + ": register " + s, name(z, s), want[s]);
+                due("put to " + r + ": register " + s, name(x, s), s == r ? "(3, 1, 4)" : name(plain, s));
             }
         }
     }
@@ -445,27 +452,48 @@ public final class BoundaryTest {
         }
     }
 
-    /** 4: "IndexOutOfBoundsException: there is none such (also below)."; 5 and 6, 8 and 9 and 10: the same. */
-    private static void noRegisters() {
+    /** 4: "IndexOutOfBoundsException: there is none such (also below)." */
+    private static void composeRegisters() {
         dueRegister("compose(r, 1, 2)", (x, r) -> x.compose(r, 1, 2));
         dueRegister("compose(1, r, 2)", (x, r) -> x.compose(1, r, 2));
         dueRegister("compose(1, 2, r)", (x, r) -> x.compose(1, 2, r));
         dueRegister("compose(r, r, r)", (x, r) -> x.compose(r, r, r));
+    }
+
+    /** 5: the same exception. */
+    private static void invertRegisters() {
         dueRegister("invert(r, 1)", (x, r) -> x.invert(r, 1));
         dueRegister("invert(1, r)", (x, r) -> x.invert(1, r));
         dueRegister("invert(r, r)", (x, r) -> x.invert(r, r));
+    }
+
+    /** 6: the same exception, whatever the exponent. */
+    private static void powerRegisters() {
         for (long k : new long[] {0, 1, -1, 2, Long.MIN_VALUE, Long.MAX_VALUE}) {
             dueRegister("power(r, 1, " + k + ")", (x, r) -> x.power(r, 1, k));
             dueRegister("power(1, r, " + k + ")", (x, r) -> x.power(1, r, k));
             dueRegister("power(r, r, " + k + ")", (x, r) -> x.power(r, r, k));
         }
+    }
+
+    /** 8: the same exception. */
+    private static void sameRegisters() {
         dueRegister("same(r, 1)", (x, r) -> x.same(r, 1));
         dueRegister("same(1, r)", (x, r) -> x.same(1, r));
         dueRegister("same(r, r)", (x, r) -> x.same(r, r));
+    }
+
+    /** 9: the same exception. */
+    private static void orderRegisters() {
         dueRegister("order(r)", (x, r) -> x.order(r));
+    }
+
+    /** 10: the same exception, also where the other register is ONE. */
+    private static void exponentRegisters() {
         dueRegister("exponent(r, 1)", (x, r) -> x.exponent(r, 1));
         dueRegister("exponent(1, r)", (x, r) -> x.exponent(1, r));
         dueRegister("exponent(5, r)", (x, r) -> x.exponent(5, r));
+        dueRegister("exponent(r, 5)", (x, r) -> x.exponent(r, 5));
         dueRegister("exponent(r, r)", (x, r) -> x.exponent(r, r));
     }
 
@@ -546,31 +574,35 @@ public final class BoundaryTest {
         }
     }
 
-    /** 11: "how many odd primes go into D"; 12: "The k-th of these primes, from 0 on." */
-    private static void oddPrimes() {
-        int[][] rows = {{-4}, {-8}, {8}, {-16}, {32}, {128}, {524288}, {-524288}, {-1048576}, {-3, 3}, {5, 5}, {12, 3},
-            {45, 3, 5}, {-27, 3}, {-1048575, 3, 5, 11, 31, 41}, {1048573, 1048573}, {-1048571, 1048571}, {1046533, 97, 10789},
-            {-1036324, 509}, {1021020, 3, 5, 7, 11, 13, 17}, {-1021020, 3, 5, 7, 11, 13, 17}, {-255255, 3, 5, 7, 11, 13, 17},
-            {285285, 3, 5, 7, 11, 13, 19}, {765765, 3, 5, 7, 11, 13, 17}, {1006005, 3, 5, 7, 11, 13, 67}, {-1036035, 3, 5, 7, 11, 13, 23}};
+    /** 11: "how many odd primes go into D". */
+    private static void numberOfPrimes() {
         FormComposer again = new FormComposer();
-        for (int[] row : rows) {
-            duePrimes(of(row[0]), row);
+        for (int[] row : PRIMES) {
+            due("D " + row[0] + ", count(2)", of(row[0]).count(2), row.length - 1);
             again.take(row[0]);
             due("D " + row[0] + " behind others: count(2)", again.count(2), row.length - 1);
         }
     }
 
-    /** 12: "IndexOutOfBoundsException: there is none such." */
-    private static void duePrimes(FormComposer x, int[] row) {
-        int d = row[0];
-        due("D " + d + ", count(2)", x.count(2), row.length - 1);
-        for (int k = 0; k < row.length - 1; k++) {
-            due("D " + d + ", prime(" + k + ")", x.prime(k), row[k + 1]);
-            due("D " + d + ", character of ONE, " + k, x.character(0, k), 1);
+    /** 12: "The k-th of these primes, from 0 on." */
+    private static void primesFromZero() {
+        for (int[] row : PRIMES) {
+            FormComposer x = of(row[0]);
+            for (int k = 0; k < row.length - 1; k++) {
+                due("D " + row[0] + ", prime(" + k + ")", x.prime(k), row[k + 1]);
+                due("D " + row[0] + ", character of ONE, " + k, x.character(0, k), 1);
+            }
         }
-        for (int k : new int[] {-1, row.length - 1, row.length, 6, 7, LEAST, GREATEST}) {
-            refused("D " + d + ", prime(" + k + ")", () -> of(d), y -> y.prime(k), INDEX);
-            refused("D " + d + ", character(7, " + k + ")", () -> of(d), y -> y.character(7, k), INDEX);
+    }
+
+    /** 12: "IndexOutOfBoundsException: there is none such." */
+    private static void noPrimes() {
+        for (int[] row : PRIMES) {
+            int d = row[0];
+            for (int k : new int[] {-1, row.length - 1, row.length, 6, 7, LEAST, GREATEST}) {
+                refused("D " + d + ", prime(" + k + ")", () -> of(d), x -> x.prime(k), INDEX);
+                refused("D " + d + ", character(7, " + k + ")", () -> of(d), x -> x.character(7, k), INDEX);
+            }
         }
     }
 
@@ -644,17 +676,25 @@ public final class BoundaryTest {
         reducedAbove();
         exponentsOfPowers();
         newObject();
+        eightRegisters();
         takeAgain();
         putRegisters();
         composeInPlace();
         invertAndPowerInPlace();
-        noRegisters();
+        composeRegisters();
+        invertRegisters();
+        powerRegisters();
+        sameRegisters();
+        orderRegisters();
+        exponentRegisters();
         otherCoefficients();
         ordersAndSame();
         leastExponents();
         noExponent();
         wholeRoots();
-        oddPrimes();
+        numberOfPrimes();
+        primesFromZero();
+        noPrimes();
         otherCounts();
         characters();
         lastCall();
