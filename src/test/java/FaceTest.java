@@ -24,6 +24,14 @@ public final class FaceTest {
         "public FormComposer()",
     };
 
+    private static void addNamesakes(Class<?> kind, Set<String> faceNames, Set<String> got) {
+        for (Method m : kind.getDeclaredMethods()) {
+            if (Modifier.isPrivate(m.getModifiers()) && faceNames.contains(m.getName())) {
+                got.add(m + " bears a public method's name");
+            }
+        }
+    }
+
     public static void main(String[] args) {
         Set<String> want = new TreeSet<>(Set.of(FACE));
         Set<String> got = new TreeSet<>();
@@ -45,12 +53,9 @@ public final class FaceTest {
                 got.add(f.toString());
             }
         }
-        for (Method m : kind.getDeclaredMethods()) {
-            if (Modifier.isPrivate(m.getModifiers()) && faceNames.contains(m.getName())) {
-                got.add(m + " bears a public method's name");
-            }
-        }
+        addNamesakes(kind, faceNames, got);
         for (Class<?> inner : kind.getDeclaredClasses()) {
+            addNamesakes(inner, faceNames, got);
             if (!Modifier.isStatic(inner.getModifiers()) || Modifier.isPublic(inner.getModifiers())) {
                 got.add(inner + " is not static or is public");
             }
